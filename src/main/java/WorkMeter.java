@@ -1103,13 +1103,13 @@ public final class WorkMeter {
             place += word.length();
         }
 
-        private boolean isDigit(int at) {
-            return at < length && tape[at] >= '0' && tape[at] <= '9';
+        private static boolean isDigit(int sign) {
+            return sign >= '0' && sign <= '9';
         }
 
         private boolean digitHere() {
             skipBlanks();
-            return isDigit(place);
+            return place < length && isDigit(tape[place]);
         }
 
         // NONE, and a FAULT, unless a number 0 .. most stands here.
@@ -1117,7 +1117,7 @@ public final class WorkMeter {
             skipBlanks();
             tokenPlace = place;
             int number = 0;
-            while (isDigit(place)) {
+            while (place < length && isDigit(tape[place])) {
                 number = Math.min(number * 10 + tape[place] - '0', TOO_GREAT);
                 place++;
             }
