@@ -973,12 +973,9 @@ public final class WorkMeter {
 
         private boolean readTable() {
             passWord("table");
-            int table = readNumber(Calendar.TABLES - 1);
+            int table = readNewNumber(Calendar.TABLES - 1, tablesTold);
             if (table == NONE) {
                 return false;
-            }
-            if ((tablesTold >> table & 1) == 1) {
-                return fail(TOLD_ALREADY, tokenPlace);
             }
             tablesTold |= 1 << table;
             for (int k = 0; k <= Calendar.SWITCHES && digitHere(); k++) {
@@ -1018,12 +1015,9 @@ public final class WorkMeter {
 
         private boolean readSeason() {
             passWord("season");
-            int season = readNumber(Calendar.SEASONS - 1);
+            int season = readNewNumber(Calendar.SEASONS - 1, seasonsTold);
             if (season == NONE) {
                 return false;
-            }
-            if ((seasonsTold >> season & 1) == 1) {
-                return fail(TOLD_ALREADY, tokenPlace);
             }
             seasonsTold |= 1 << season;
             int day = readNumber(YEAR_DAYS - 1);
@@ -1127,6 +1121,16 @@ public final class WorkMeter {
             }
             if (number > most) {
                 fail(NO_SUCH_NUMBER, tokenPlace);
+                return NONE;
+            }
+            return number;
+        }
+
+        // As readNumber(), but one whose bit says that it is told already is a FAULT too.
+        private int readNewNumber(int most, int told) {
+            int number = readNumber(most);
+            if (number != NONE && (told >> number & 1) == 1) {
+                fail(TOLD_ALREADY, tokenPlace);
                 return NONE;
             }
             return number;

@@ -68,6 +68,12 @@ public final class MeteringTest {
         Check.due("CREEP", x.look(6), 3);
         Check.due("BLOCK's SECONDS", x.block(3), 5);
         Check.due("BLOCK's IMPORT", x.block(0), 3000);
+        x.set(0, 2200);
+        x.again(1);
+        Check.due("Q is just START", x.raw(5, 0), 4400);
+        x.set(0, 2201);
+        x.again(1);
+        Check.due("CREEP", x.look(6), 4);
     }
 
     private static void readingsByTariffs() {

@@ -12,6 +12,7 @@ public final class TextTest {
         toldAlready();
         tooMany();
         theFirstByItsPlace();
+        threeHundredBytes();
         allStaysWithAFault();
         sealed();
         Check.finish();
@@ -209,6 +210,21 @@ public final class TextTest {
         bad("table 1 1:0 0 1:0 9 ?", 3, 16);
         bad("price 0 0 0 0;price ?", 3, 14);
         bad("special 1 1;special 1 9;", 3, 20);
+    }
+
+    // What ends just with THE TAPE's last byte.
+    private static void threeHundredBytes() {
+        String[] ends = {"table", "table 1", "table 1 2", "table 1 2:", "table 1 2:3", "table 1 2:3 1",
+            "season", "season 1", "season 1 2", "season 1 2 3", "special", "special 1", "special 1 2",
+            "price", "price 1", "price 1 2 3 4"};
+        for (String end : ends) {
+            bad(" ".repeat(300 - end.length()) + end, 1, 300);
+            good(" ".repeat(299 - "table 1".length()) + "table 1;", 1);
+        }
+        bad(" ".repeat(295) + "tabla", 1, 295);
+        bad(" ".repeat(292) + "table 99", 2, 298);
+        good(" ".repeat(300), 0);
+        good("table 1 ;" + " ".repeat(291), 1);
     }
 
     private static void allStaysWithAFault() {
