@@ -268,14 +268,15 @@ public final class WorkMeter {
     }
 
     public int switching(int table, int i, int what) {
-        if (!isTable(table) || what < 0 || what > 1) {
+        if (!isTable(table)) {
             return NONE;
         }
         int count = now.calendar.counts[table];
+        // How many there are is asked with i alone: what belongs to one SWITCH.
         if (i == NONE) {
             return count;
         }
-        if (i < 0 || i >= count) {
+        if (i < 0 || i >= count || what < 0 || what > 1) {
             return NONE;
         }
         int slot = table * Calendar.SWITCHES + i;
@@ -307,14 +308,15 @@ public final class WorkMeter {
     }
 
     public long load(int i, int what) {
-        if (what < 0 || what >= Load.WIDTH) {
-            return NONE;
-        }
         int lines = now.load.linesKept();
+        // How many are kept is asked with i alone: what belongs to one LINE.
         if (i == NONE) {
             return lines;
         }
-        return i >= 0 && i < lines ? now.load.field(i, what) : NONE;
+        if (i < 0 || i >= lines || what < 0 || what >= Load.WIDTH) {
+            return NONE;
+        }
+        return now.load.field(i, what);
     }
 
     public long block(int what) {

@@ -56,11 +56,15 @@ public final class BlocksTest {
         line(x, 0, 120, 0, 120000, 120000, 60, 0);
         line(x, 1, 60, 120000, 0, 120000, 60, 0);
         block(x, 0, 6000, 6000, 3, 0, 0);
-        Check.due("how many", x.load(-1, 5), 2);
+        for (int what : new int[] {0, 5, -1, 6, Integer.MAX_VALUE, Integer.MIN_VALUE}) {
+            Check.due("how many, whatever what is", x.load(-1, what), 2);
+        }
         Check.due("none such", x.load(2, 0), -1);
         Check.due("none such", x.load(-2, 0), -1);
         Check.due("another what", x.load(0, 6), -1);
         Check.due("another what", x.load(0, -1), -1);
+        Check.due("another what", x.load(1, Integer.MIN_VALUE), -1);
+        Check.due("none such, another what", x.load(-2, -1), -1);
         Check.due("block(6)", x.block(6), -1);
         Check.due("block(-1)", x.block(-1), -1);
         Check.due("look(10)", x.look(10), 2);
@@ -261,7 +265,7 @@ public final class BlocksTest {
         Check.due("lost(4)", x.lost(4), -1);
         Check.due("lost(-1)", x.lost(-1), -1);
         Check.due("look(10)", x.look(10), 66);
-        Check.due("kept", x.load(-1, 0), 64);
+        Check.due("kept", x.load(-1, 6), 64);
         Check.due("none such", x.load(64, 0), -1);
     }
 

@@ -37,14 +37,17 @@ public final class CalendarTest {
             Check.due("second", x.switching(7, k, 0), due[k]);
             Check.due("TARIFF", x.switching(7, k, 1), tariffs[k]);
         }
-        Check.due("how many", x.switching(7, -1, 0), 6);
-        Check.due("how many", x.switching(7, -1, 1), 6);
+        for (int what : new int[] {0, 1, 2, -1, Integer.MAX_VALUE, Integer.MIN_VALUE}) {
+            Check.due("how many, whatever what is", x.switching(7, -1, what), 6);
+            Check.due("none of TABLE 6", x.switching(6, -1, what), 0);
+            Check.due("no TABLE", x.switching(8, -1, what), -1);
+            Check.due("no TABLE", x.switching(-1, -1, what), -1);
+        }
         Check.due("none such", x.switching(7, 6, 0), -1);
         Check.due("none such", x.switching(7, -2, 0), -1);
         Check.due("another what", x.switching(7, 0, 2), -1);
         Check.due("another what", x.switching(7, 0, -1), -1);
-        Check.due("no TABLE", x.switching(8, -1, 0), -1);
-        Check.due("no TABLE", x.switching(-1, -1, 0), -1);
+        Check.due("none such, another what", x.switching(6, 0, 2), -1);
         int[][] wrong = {{8, 0, 0}, {-1, 0, 0}, {0, 86400, 0}, {0, -1, 0}, {0, 0, 4}, {0, 0, -1}};
         for (int[] w : wrong) {
             Check.due("table", x.table(w[0], w[1], w[2]), -1);

@@ -28,6 +28,10 @@ public final class NewObjectTest {
         }
         Check.due("lasts()", x.lasts(), -1);
         Check.due("image(false)", x.image(false), false);
+        for (int what = -1; what < 7; what++) {
+            Check.due("load(NONE, " + what + ")", x.load(-1, what), 0);
+            Check.due("switching(0, NONE, " + what + ")", x.switching(0, -1, what), 0);
+        }
         Check.due("fault(0)", x.fault(0), 0);
         Check.due("fault(1)", x.fault(1), -1);
         Check.due("fault(2)", x.fault(2), -1);

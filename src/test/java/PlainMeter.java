@@ -671,14 +671,14 @@ final class PlainMeter {
     }
 
     int switching(int table, int i, int what) {
-        if (!in(table, 0, 7) || !in(what, 0, 1)) {
+        if (!in(table, 0, 7)) {
             return -1;
         }
         List<Integer> seconds = new ArrayList<>(x.tables.get(table).keySet());
         if (i == -1) {
             return seconds.size();
         }
-        if (!in(i, 0, seconds.size() - 1)) {
+        if (!in(i, 0, seconds.size() - 1) || !in(what, 0, 1)) {
             return -1;
         }
         return what == 0 ? seconds.get(i) : x.tables.get(table).get(seconds.get(i));
@@ -719,14 +719,11 @@ final class PlainMeter {
     }
 
     long load(int i, int what) {
-        if (!in(what, 0, 5)) {
-            return -1;
-        }
         int kept = keptLoad().size();
         if (i == -1) {
             return kept;
         }
-        return in(i, 0, kept - 1) ? x.load.get(x.load.size() - 1 - i)[what] : -1;
+        return in(i, 0, kept - 1) && in(what, 0, 5) ? x.load.get(x.load.size() - 1 - i)[what] : -1;
     }
 
     long block(int what) {

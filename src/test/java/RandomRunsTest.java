@@ -295,7 +295,8 @@ public final class RandomRunsTest {
                 }
                 break;
             case 7: due(said("marked", a, b), x.marked(a, b), y.marked(a, b)); break;
-            case 8: due(said("load", m % 66, b), x.load(m % 66, b), y.load(m % 66, b)); break;
+            case 8: int line = m % 67 - 1;
+                due(said("load", line, b), x.load(line, b), y.load(line, b)); break;
             case 9: due(said("block", b), x.block(b), y.block(b)); break;
             case 10: due(said("demand", b), x.demand(b), y.demand(b)); break;
             case 11: due(said("greatest", a, b), x.greatest(a, b), y.greatest(a, b)); break;
