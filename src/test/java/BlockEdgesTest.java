@@ -104,6 +104,8 @@ public final class BlockEdgesTest {
         Run.of("one that goes on is in each", MINUTES, "mark(1, true); again(59); load(0, 5) 2; block(5) 0; again(1)",
             "block(5) 2; again(59); load(0, 5) 2",
             "mark(1, false); again(60); load(0, 5) 0");
+        Run.of("one that goes on while it is OFF", "set(4, 60); mark(0, true); off(60); load(0, 5) 33; block(5) 0",
+            "off(1); block(5) 33; off(119); load(0, 5) 33; load(1, 5) 33; block(5) 0; block(4) 0; look(10) 3");
         Run.of("all of them", "phases(2, 4); set(3, 0); mark(0, true); mark(1, true)",
             "samples(1, -1, 1, 1, 0, 0, 0, 0, 0, 0, 0, 0, 0, 0, 0, 0)",
             "block(5) 11; samples(0, 1, 20, 1, 0, 0, 0, 0, 0, 0, 0, 0, 0, 0, 0, 0); block(5) 31; off(1); block(5) 63",
@@ -233,6 +235,9 @@ public final class BlockEdgesTest {
             "best(63, 0) 1; best(64, 0) NONE; off(60)",
             "best(64, 0) 1; best(64, 1) 3840; best(65, 0) NONE; off(60); best(64, 0) 0; best(64, 1) 3900",
             "best(65, 0) NONE; best(1, 1) 3900");
+        Run.of("the oldest of 64", "phases(1, 4); set(4, 60); power(1, 3, 0); off(59); power(1, 2, 0); off(3779)",
+            "load(NONE, 0) 64; best(1, 0) 3; best(1, 1) 60; best(2, 0) 5; best(2, 1) 120; best(63, 0) 5",
+            "best(63, 1) 3780; best(64, 0) 5; off(60); best(1, 0) 2; best(1, 1) 120; best(2, 1) 180; best(64, 0) 2");
         Run.of("there are none", "best(1, 0) NONE; best(1, 1) NONE; best(64, 0) NONE");
         Run.of("as THE LOAD has them, not by TIME", "phases(1, 4); set(4, 60); power(1, 1, 0); again(59); move(0)",
             "again(60); best(2, 0) 120; best(2, 1) 60",

@@ -131,6 +131,13 @@ public final class MarkEdgesTest {
         }
         Run.of("DELAY 3 at first", "phases(1, 4); power(0, 1, 0); again(2); look(8) 0; again(1); look(8) 16",
             "log(0, 0) 3");
+        Run.of("DELAY told meanwhile: by the next SECOND", "phases(1, 4); set(3, 10); power(0, 1, 0); again(4)",
+            "set(3, 2)",
+            "marked(4, 0) 0; marked(4, 3) 5; again(10); marked(4, 0) 1; marked(4, 2) 10; marked(4, 3) 15; look(5) 15",
+            "log(0, 0) 5; look(0) 15; set(3, 60); again(1); marked(4, 0) 1; marked(4, 2) 11; look(9) 1");
+        Run.of("DELAY told just so", "phases(1, 4); set(3, 10); power(0, 1, 0); again(4); set(3, 5); again(1)",
+            "marked(4, 0) 1; log(0, 0) 5; power(1, 1, 0); set(3, 10); power(0, 1, 0); again(4); set(3, 6); again(1)",
+            "marked(4, 0) 0; again(1); marked(4, 0) 1; marked(4, 3) 7");
         Run.of("all in one call", "phases(1, 4); set(3, 60); power(0, 1, 0); again(59); look(8) 0; would(1, 4) 16",
             "again(900); marked(4, 2) 900");
     }

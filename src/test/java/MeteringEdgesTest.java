@@ -209,6 +209,11 @@ public final class MeteringEdgesTest {
             "look(4) 0; again(1); look(2) -4; look(4) 1; log(0, 0) 2; prepaid(false) 1; look(4) 0; log(0, 1) 23",
             "log(0, 0) 3",
             "prepaid(true) 1; look(4) 1; pay(4) 0; look(4) 1; pay(1) 1; look(4) 0; look(9) 4");
+        Run.of("in the midst of a call", "phases(1, 4); set(1, 10); set(10, 2); pay(7); prepaid(true); power(1, 3, 0)",
+            "again(100) 4; look(4) 1; look(2) -1; raw(0, 0) 42; log(0, 1) 22; log(0, 0) 13; look(0) 101; look(5) 101",
+            "block(0) 42; pay(2) 1; again(100) 5; raw(0, 0) 51; look(2) -1; log(0, 0) 103; look(9) 3");
+        Run.of("at the SECOND a TARIFF begins", "phases(1, 4); set(1, 1); set(11, 1); table(0, 10, 1); pay(1)",
+            "prepaid(true); power(1, 1, 0); lasts() 10; again(100) 11; log(0, 0) 10; look(2) 0; raw(0, 1) 1");
         Run.of("without PREPAID it never opens", "phases(1, 4); set(1, 1); set(10, 1); power(1, 5, 0); again(9)",
             "look(2) -50; look(4) 0; look(9) 0");
     }
